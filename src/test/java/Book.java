@@ -92,11 +92,11 @@ final class Book {
     return number;
   }
 
-  private static int lo(L l, int m) {
+  static int lo(L l, int m) {
     return m < l.fish ? m : l.fish;
   }
 
-  private static int hi(L l, int m) {
+  static int hi(L l, int m) {
     int above = m - l.least;
     if (above < 0) above = 0;
     int most = l.limit < above ? l.limit : above;

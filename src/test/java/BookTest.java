@@ -65,14 +65,25 @@ public final class BookTest {
     for (int i = 0; i < lakes; i++) {
       int greatest = Math.min(30, upTo(wide ? 9 : 5));
       if (book.states() * (greatest + 1) > room) greatest = 0;
-      ask(0, upTo(greatest), greatest, upTo(10), upTo(random.nextBoolean() ? 1 : 5));
+      int least = random.nextBoolean() ? greatest / 2 : upTo(greatest);
+      ask(0, least, greatest, upTo(10), upTo(random.nextBoolean() ? 1 : 5));
       if (random.nextInt(10) == 0) ask(0, near(3), near(30), near(10), near(5));
     }
-    for (int i = 0; i < 12; i++) ask(1, near(lakes - 1), near(9), near(9));
+    for (int i = 0; i < book.lakes.size(); i++) raiseHeads(i);
+    for (int i = 0; i < 4; i++) ask(1, near(lakes - 1), near(9), near(9));
     for (int i = 0; i < 3; i++) ask(2, near(lakes - 1), near(random.nextBoolean() ? 99 : 5));
     ask(3, 1 + random.nextInt(random.nextInt(8) == 0 ? 10 : 3), 1 + random.nextInt(6));
     for (int i = 0; i < book.w; i++) ask(4, i, upTo(random.nextBoolean() ? 20 : 2));
     grow(random.nextInt(3));
+  }
+
+  /** From the greatest measure down, as heads can only be raised so. */
+  private void raiseHeads(int lake) {
+    int h = 9;
+    for (int m = book.lakes.get(lake).greatest; m >= 0; m--) {
+      h = Math.max(0, h - random.nextInt(4));
+      ask(1, lake, m, h);
+    }
   }
 
   /** Nodes until the tree is whole or full; some trees are left rough. */
@@ -105,7 +116,7 @@ public final class BookTest {
       case 2: if (mayChange) ask(2, near(l), near(99)); break;
       case 3: if (mayChange) ask(3, near(10), near(6)); break;
       case 4: if (mayChange) ask(4, near(9), near(20)); break;
-      case 5: ask(5, near(n), near(book.d), near(999)); break;
+      case 5: ask(5, near(n), near(book.d), near(random.nextBoolean() ? 9 : 999)); break;
       case 6: ask(6, near(n), near(7)); break;
       case 7: ask(7, near(6)); break;
       case 8: ask(8, near(n), near(s)); break;
@@ -146,9 +157,18 @@ public final class BookTest {
       return;
     }
     int lets = 0;
-    for (int i = 0; i < book.lakes.size(); i++) lets = lets * 16 + upTo(random.nextInt(10) == 0 ? 15 : 3);
+    for (int i = 0; i < book.lakes.size(); i++) lets = lets * 16 + someLet(i);
     if (random.nextInt(15) == 0) lets = WRONG[random.nextInt(WRONG.length)];
     ask(19, lets, near(Math.max(0, children - 1)));
+  }
+
+  /** Mostly one that may be. */
+  private int someLet(int lake) {
+    if (book.run == null || random.nextInt(12) == 0) return upTo(15);
+    Book.L l = book.lakes.get(lake);
+    int m = book.run.get(book.run.size() - 1).state[lake];
+    int let = Book.lo(l, m) + upTo(Book.hi(l, m) - Book.lo(l, m));
+    return random.nextInt(12) == 0 ? Math.max(0, let + random.nextInt(3) - 1) : let;
   }
 
   private void ask(int call, int... a) {
