@@ -96,8 +96,8 @@ public final class LakeChain {
         if (weight < 1 || weight > tree.parts - above.weightBelow) return BAD;
         if (!isWithin(in, valley.mostIn())) return BAD;
         if (run.isOn) return BUSY;
-        if (tree.made >= MOST_NODES) return FULL;
         Node below = tree.addNode(above, weight);
+        if (below == null) return FULL;
         valley.tellIn(in, below.in);
         worths.forget();
         return below.number;
@@ -137,7 +137,7 @@ public final class LakeChain {
     public long worth(int node, int state) {
         Node at = tree.nodeAt(node);
         if (at == null || !valley.hasState(state) || !isWhole()) return NO_WORTH;
-        return worths.worthOf(at, state, tree.weeksLeft(at));
+        return worths.worthAt(at, state);
     }
 
     public int policy(int node, int state, int lake) {
@@ -145,7 +145,7 @@ public final class LakeChain {
         if (at == null || !valley.hasState(state) || valley.lakeAt(lake) == null) return BAD;
         if (!isWhole()) return ROUGH;
         if (tree.isLast(at)) return OVER;
-        return Valley.letOf(worths.bestLets(at, state, tree.weeksLeft(at)), lake);
+        return Valley.letOf(worths.bestLets(at, state), lake);
     }
 
     public long water(int node, int state, int lake) {
@@ -153,21 +153,19 @@ public final class LakeChain {
         Lake which = valley.lakeAt(lake);
         if (at == null || which == null || !valley.hasState(state) || !isWhole()) return NO_WORTH;
         if (valley.measureOf(state, lake) >= which.greatest) return NO_WORTH;
-        int left = tree.weeksLeft(at);
-        return worths.worthOf(at, state + which.stride, left) - worths.worthOf(at, state, left);
+        return worths.worthAt(at, state + which.stride) - worths.worthAt(at, state);
     }
 
     public int needs(int node, long v) {
         Node at = tree.nodeAt(node);
         if (at == null) return BAD;
         if (!isWhole()) return ROUGH;
-        int left = tree.weeksLeft(at);
         int answer = NONE;
         int leastSum = MOST_LAKES * MOST_MEASURE + 1;
         for (int state = 0; state < valley.states; state++) {
             int sum = valley.sumOf(state);
             // the sum is asked first: it is cheap, and a worth is not
-            if (sum < leastSum && worths.worthOf(at, state, left) >= v) {
+            if (sum < leastSum && worths.worthAt(at, state) >= v) {
                 leastSum = sum;
                 answer = state;
             }
@@ -245,7 +243,7 @@ public final class LakeChain {
     public int best(int k) {
         int refused = refusalOfWeek(k);
         if (refused != 0) return refused;
-        return letWeek(worths.bestLets(run.at, run.stateNow(), tree.weeksLeft(run.at)), k);
+        return letWeek(worths.bestLets(run.at, run.stateNow()), k);
     }
 
     public int ruled(int k) {
@@ -549,8 +547,9 @@ public final class LakeChain {
             return number >= 0 && number < made && number < nodes.length ? nodes[number] : null;
         }
 
-        /** A node that went is used again, with its rows: all that is made counts. */
+        /** null if there are too many. A node that went is used again, with its rows: all that is made counts. */
         Node addNode(Node above, int weight) {
+            if (made >= nodes.length) return null;
             if (nodes[made] == null) nodes[made] = new Node(made);
             Node below = nodes[made];
             below.dropChildren();
@@ -615,14 +614,18 @@ public final class LakeChain {
             version++;
         }
 
-        int bestLets(Node at, int state, int left) {
+        int bestLets(Node at, int state) {
             refresh(at);
-            searchBest(at, state, left);
+            searchBest(at, state, tree.weeksLeft(at));
             return foundLets;
         }
 
-        /** left, the weeks from the node to the end, falls by one with each level of the search. */
-        long worthOf(Node at, int state, int left) {
+        long worthAt(Node at, int state) {
+            return worthOf(at, state, tree.weeksLeft(at));
+        }
+
+        /** left, the weeks from the node to the end, falls by one with each level and ends the search. */
+        private long worthOf(Node at, int state, int left) {
             if (left <= 0) return valley.endWorth(state);
             refresh(at);
             if (state < 0 || state >= at.worthRow.length) return 0;
@@ -650,9 +653,9 @@ public final class LakeChain {
             int held1 = valley.measureOf(state, 1);
             int held2 = valley.measureOf(state, 2);
             long unit = tree.scaleOf(left) * tree.priceFrom(at);
-            long gaheld0 = unit * first.headAt(held0);
-            long gaheld1 = unit * second.headAt(held1);
-            long gaheld2 = unit * third.headAt(held2);
+            long gain0 = unit * first.headAt(held0);
+            long gain1 = unit * second.headAt(held1);
+            long gain2 = unit * third.headAt(held2);
             int most0 = first.mostLet(held0);
             int most1 = second.mostLet(held1);
             int most2 = third.mostLet(held2);
@@ -665,10 +668,10 @@ public final class LakeChain {
                     int kept1 = Math.min(held1 - let1 + let0, second.greatest);
                     int over1 = held1 - let1 + let0 - kept1;
                     int kept = (held0 - let0) * first.stride + kept1 * second.stride;
-                    long gain = gaheld0 * let0 + gaheld1 * let1;
+                    long gain = gain0 * let0 + gain1 * let1;
                     for (int let2 = least2; let2 <= most2; let2++) {
                         int kept2 = Math.min(held2 - let2 + let1 + over1, third.greatest);
-                        long value = gain + gaheld2 * let2 + meanFrom(at, kept + kept2, left);
+                        long value = gain + gain2 * let2 + meanFrom(at, kept + kept2, left);
                         if (value > best) {
                             best = value;
                             bestLets = let0 << 8 | let1 << 4 | let2;

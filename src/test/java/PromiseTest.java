@@ -42,6 +42,7 @@ public final class PromiseTest {
     best();
     ruled();
     undo();
+    tenWeeks();
     stop();
     now();
     refusedChangesNothing();
@@ -463,6 +464,14 @@ public final class PromiseTest {
     // from 3, too, 2 can be let, then 1 (dry) or 2 (wet); from 2 only 1
     due("needs(0, 14), times 4", y.needs(0, 14), 3);
     due("needs(0, 15)", y.needs(0, 15), -6);
+    LakeChain z = new LakeChain();
+    z.lake(0, 30, 0, 0);
+    z.lake(0, 30, 0, 0);
+    z.end(0, 1);
+    z.end(1, 1);
+    z.node(0, 1, 0);
+    due("needs(0, 60): both full", z.needs(0, 60), 960);
+    due("needs(0, 59): (29, 30)", z.needs(0, 59), 929);
   }
 
   private static void rule() {
@@ -681,6 +690,28 @@ public final class PromiseTest {
     // 9 + 9: 9 spill; 4 + 9: 4 spill; 5 - 2 + 4
     due("now(1)", x.now(1), 997);
     due("now(3)", x.now(3), 13);
+  }
+
+  private static void tenWeeks() {
+    promise = 24;
+    LakeChain x = new LakeChain();
+    x.lake(0, 30, 10, 0);
+    x.head(0, 30, 9);
+    x.weeks(10, 1);
+    for (int i = 0; i < 10; i++) x.node(i, 1, 9);
+    for (int i = 0; i < 10; i++) x.price(i, i + 1);
+    x.begin(30);
+    // 9 are let at head 9 and come again; the week's number and 1 is its price
+    for (int i = 0; i < 10; i++) due("week(9, 0), the " + i + "th", x.week(9, 0), 81 * (i + 1));
+    int[] all = {10, 30, 81 * 55, 0, 90, 90, 10};
+    for (int i = 0; i < all.length; i++) due("now(" + i + ")", x.now(i), all[i]);
+    due("week(9, 0), the last week", x.week(9, 0), -4);
+    for (int i = 8; i >= -1; i--) due("undo()", x.undo(), i);
+    due("undo()", x.undo(), -6);
+    due("now(1)", x.now(1), 30);
+    due("now(2)", x.now(2), 0);
+    due("week(10, 0)", x.week(10, 0), 90);
+    due("now(1)", x.now(1), 29);
   }
 
   private static void best() {
