@@ -270,10 +270,10 @@ public final class LakeChain {
         switch (what) {
             case 0: return run.at.number;
             case 1: return run.stateNow();
-            case 2: return run.earned[run.length];
-            case 3: return run.spilled[run.length];
-            case 4: return run.letOut[run.length];
-            case 5: return run.cameIn[run.length];
+            case 2: return run.toldNow(run.earned);
+            case 3: return run.toldNow(run.spilled);
+            case 4: return run.toldNow(run.letOut);
+            case 5: return run.toldNow(run.cameIn);
             case 6: return run.length;
             default: return BAD;
         }
@@ -814,7 +814,12 @@ public final class LakeChain {
         }
 
         int stateNow() {
-            return states[length];
+            return toldNow(states);
+        }
+
+        /** What one of the rows above has behind the latest week. */
+        int toldNow(int[] row) {
+            return length >= 0 && length < row.length ? row[length] : 0;
         }
 
         void goOn(Node child, int state, int earns, int spills, int letsOut) {
