@@ -628,14 +628,15 @@ public final class LakeChain {
         private long worthOf(Node at, int state, int left) {
             if (left <= 0) return valley.endWorth(state);
             refresh(at);
-            if (state < 0 || state >= at.worthRow.length) return 0;
-            if (at.worthRow[state] == UNKNOWN) at.worthRow[state] = searchBest(at, state, left);
-            return at.worthRow[state];
+            long[] row = at.worthRow;
+            if (row == null || state < 0 || state >= row.length) return 0;
+            if (row[state] == UNKNOWN) row[state] = searchBest(at, state, left);
+            return row[state];
         }
 
         private void refresh(Node at) {
             if (at.knownAt == version && at.worthRow != null && at.meanRow != null) return;
-            if (at.worthRow == null || at.worthRow.length != valley.states) {
+            if (at.worthRow == null || at.meanRow == null || at.worthRow.length != valley.states) {
                 at.worthRow = new long[valley.states];
                 at.meanRow = new long[valley.states];
             }

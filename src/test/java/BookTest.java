@@ -25,7 +25,7 @@ public final class BookTest {
     int bad = 0;
     for (int seed = 0; seed < runs && bad < 5; seed++) {
       BookTest test = new BookTest(seed);
-      test.go(seed % 50 == 0);
+      test.go(seed % 50 == 0, seed % 50 == 25);
       if (test.wrong) {
         bad++;
         System.out.println("seed " + seed + ":\n" + test.told);
@@ -35,11 +35,12 @@ public final class BookTest {
     if (bad != 0) System.exit(1);
   }
 
-  private void go(boolean wide) {
-    build(wide);
-    int calls = wide ? 60 : 150;
+  /** wide: up to 1000 states; tall: measures up to 30 and up to ten weeks. */
+  private void go(boolean wide, boolean tall) {
+    build(wide, tall);
+    int calls = wide || tall ? 60 : 150;
     for (int i = 0; i < calls && !wrong; i++) {
-      if (random.nextInt(60) == 0) build(wide);
+      if (random.nextInt(60) == 0) build(wide, tall);
       askSomething();
     }
   }
@@ -58,12 +59,12 @@ public final class BookTest {
     return upTo(Math.max(0, most));
   }
 
-  private void build(boolean wide) {
+  private void build(boolean wide, boolean tall) {
     if (random.nextInt(4) > 0) ask(23);
     int lakes = 1 + random.nextInt(3);
-    int room = wide ? 1000 : 60;
+    int room = wide ? 1000 : tall ? 200 : 60;
     for (int i = 0; i < lakes; i++) {
-      int greatest = Math.min(30, upTo(wide ? 9 : 5));
+      int greatest = upTo(tall ? 30 : wide ? 9 : 5);
       if (book.states() * (greatest + 1) > room) greatest = 0;
       int least = random.nextBoolean() ? greatest / 2 : upTo(greatest);
       ask(0, least, greatest, upTo(10), upTo(random.nextBoolean() ? 1 : 5));
@@ -72,7 +73,7 @@ public final class BookTest {
     for (int i = 0; i < book.lakes.size(); i++) raiseHeads(i);
     for (int i = 0; i < 4; i++) ask(1, near(lakes - 1), near(9), near(9));
     for (int i = 0; i < 3; i++) ask(2, near(lakes - 1), near(random.nextBoolean() ? 99 : 5));
-    ask(3, 1 + random.nextInt(random.nextInt(8) == 0 ? 10 : 3), 1 + random.nextInt(6));
+    ask(3, 1 + random.nextInt(tall || random.nextInt(8) == 0 ? 10 : 3), 1 + random.nextInt(6));
     for (int i = 0; i < book.w; i++) ask(4, i, upTo(random.nextBoolean() ? 20 : 2));
     grow(random.nextInt(3));
   }
